@@ -78,6 +78,29 @@ public final class DigestTest {
         Check.same("digest with late months", x.digest(), due);
     }
 
+    private static void withAPensionTo12MonthsAhead() {
+        PensionSections x = new PensionSections();
+        x.join(2, 720, 700);
+        x.fallBehind(0, true);
+        x.pass(1);
+        x.payLate(0, 72);
+        x.fallBehind(0, false);
+        long due = folded(
+            1, 1, 0, 72, 0, 0, 0, 5,
+            0, 72, 0, 0, 0, 0,
+            780, 12, 5, 2,
+            100, 60, 0, 0, 0, 0,
+            100, 60, 0, 0, 0, 0,
+            100, 60, 0, 1, 1, 0,
+            0, 2, 720, 701, 0, 0, 1, 0, 1, 0, 0, 0,
+            13 - 3, 0,
+            72 * 25, 0, 0, 0,
+            79 + 72 + 1,
+            0,
+            0);
+        Check.same("digest with all paid late, and 67 months to go in 12", x.digest(), due);
+    }
+
     /** The bits of inTime over many shares of what was paid in time. */
     private static void theBitsOfInTime() {
         for (int months = 1; months <= 60; months++) {
@@ -113,6 +136,7 @@ public final class DigestTest {
         ofANewObject();
         withAMember();
         withLateMonths();
+        withAPensionTo12MonthsAhead();
         theBitsOfInTime();
         Check.end();
     }

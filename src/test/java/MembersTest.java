@@ -48,17 +48,34 @@ public final class MembersTest {
         Check.same("the new one has no service of the one before", x.member(7, 4), 0);
     }
 
-    private static void promise4FreshRows() {
+    private static void promise4NothingIsLeftOfOneBefore() {
         PensionSections x = new PensionSections();
-        x.join(0, 1000, 770);
-        x.fallBehind(0, true);
-        x.transfer(0, 4000);
+        for (int i = 0; i < 8; i++) {
+            x.join(0, 1440, 772);
+        }
+        for (int section = 0; section < 3; section++) {
+            if (section > 0) {
+                x.change(3, section);
+            }
+            x.transfer(3, 28800);
+        }
         x.pass(2);
-        x.leave(0);
-        x.join(0, 1000, 300);
-        int[] values = {1, 0, 1000, 300, 0, 0, 0, 0, 0, 0, 0, 0};
+        x.fallBehind(3, true);
+        x.pass(2);
+        x.retire(3);
+        x.leave(3);
+        freshMember(x, 8);
+        x.fallBehind(8, true);
+        x.pass(2);
+        x.leave(8);
+        freshMember(x, 9);
+    }
+
+    private static void freshMember(PensionSections x, int number) {
+        Check.same("the ninth that came", x.join(0, 1000, 300), number);
+        int[] values = {number, 0, 1000, 300, 0, 0, 0, 0, 0, 0, 0, 0};
         for (int what = 0; what < 12; what++) {
-            Check.same("fresh property " + what, x.member(0, what), values[what]);
+            Check.same("fresh property " + what, x.member(7, what), values[what]);
         }
     }
 
@@ -116,6 +133,20 @@ public final class MembersTest {
         Check.same("but are gone", x.count(4), 0);
         Check.same("undoable, also when nothing is paid", x.count(7), 6);
         Check.same("the sum", x.sum(5), 0);
+    }
+
+    private static void promise5NoPensionForOneWhoLeft() {
+        PensionSections x = new PensionSections();
+        x.join(0, 1000, 780);
+        x.transfer(0, 200000);
+        x.retire(0);
+        x.pass(1);
+        Check.same("a pension of 138", x.count(3), 200000 - 138);
+        x.leave(0);
+        x.pass(10);
+        Check.same("no more", x.count(3), 200000 - 138);
+        Check.same("none retired", x.count(2), 0);
+        Check.same("none would be missing", x.fundLasts(), NONE);
     }
 
     private static void promise6Pay() {
@@ -230,10 +261,11 @@ public final class MembersTest {
     public static void main(String[] args) {
         promise4Join();
         promise4EightMembers();
-        promise4FreshRows();
+        promise4NothingIsLeftOfOneBefore();
         promise5Leave();
         promise5AsFarAsTheFundHasIt();
         promise5LateAndRetired();
+        promise5NoPensionForOneWhoLeft();
         promise6Pay();
         promise7Change();
         promise8FallBehind();

@@ -114,6 +114,16 @@ public final class TextTest {
         Check.same("the numbers come again", x.join(0, 1, 192), 2);
     }
 
+    private static void promise17TheLeastTransfer() {
+        PensionSections x = new PensionSections();
+        x.set(3, 1);
+        Check.write(x, "1s0a20+1;2s1a20+1");
+        Check.same("members then", x.joinAll(), 2);
+        Check.same("the fund", x.count(3), 2);
+        Check.same("a month for 1", x.member(0, 4), 1);
+        Check.same("none for half the price", x.member(1, 5), 0);
+    }
+
     private static void isRefused(PensionSections x, String text) {
         Check.write(x, text);
         Check.noState("joinAll of " + text, x, x::joinAll);
@@ -165,6 +175,7 @@ public final class TextTest {
         promise16FirstError();
         promise17NotComplete();
         promise17JoinAll();
+        promise17TheLeastTransfer();
         promise17Refused();
         promise17FundLimit();
         Check.end();
