@@ -573,10 +573,6 @@ public final class PensionSections {
         return isSo ? 1 : 0;
     }
 
-    private static long quotient(long amount, long divisor) {
-        return divisor > 0 ? amount / divisor : 0;
-    }
-
     /** All that undo brings back. */
     private static final class Scheme {
         private final int[] settings = new int[SETTINGS];
@@ -711,7 +707,8 @@ public final class PensionSections {
         }
 
         private int monthsFor(Member bringer, int amount) {
-            return (int) quotient(amount, settings[SERVICE_PRICE] * bringer.pay);
+            int price = settings[SERVICE_PRICE] * bringer.pay;
+            return price > 0 ? amount / price : 0;
         }
 
         boolean refusesTransfer(Member bringer, int amount) {
@@ -729,7 +726,8 @@ public final class PensionSections {
         }
 
         int monthsToRetiring(Member worker) {
-            return Math.max(0, settings[RETIRING_AGE] - worker.age);
+            int months = settings[RETIRING_AGE] - worker.age;
+            return months > 0 ? months : 0;
         }
 
         void putToRest(Member worker) {
@@ -758,7 +756,8 @@ public final class PensionSections {
             long pension = 0;
             for (int i = 0; i < SECTIONS; i++) {
                 long service = worker.service[i] + (i == section ? more : 0);
-                pension += quotient(worker.pay * service, 12L * shares[i]);
+                int divisor = 12 * shares[i];
+                pension += divisor > 0 ? worker.pay * service / divisor : 0;
             }
             return pension;
         }
@@ -1016,8 +1015,9 @@ public final class PensionSections {
         }
 
         int costAt(int place, int gone, int interest) {
-            int due = dueAt(place);
-            return due + due * interest * (gone - monthAt(place)) / 1000;
+            int slot = slot(place);
+            int due = dues[slot];
+            return due + due * interest * (gone - months[slot]) / 1000;
         }
 
         int costOfAll(int gone, int interest) {
@@ -1056,8 +1056,9 @@ public final class PensionSections {
         /** Drops all that were due in this month or before; returns how many. */
         int dropUpTo(int month) {
             int before = size;
-            for (int n = 0; n < before && monthAt(0) <= month; n++) {
-                dropFirst();
+            for (int n = 0; n < before && months[slot(0)] <= month; n++) {
+                first = slot(1);
+                size--;
             }
             return before - size;
         }
@@ -1068,10 +1069,11 @@ public final class PensionSections {
         }
 
         void copyFrom(LateMonths other) {
-            clear();
-            for (int place = 0; place < other.size; place++) {
-                add(other.monthAt(place), other.dueAt(place), other.sectionAt(place));
-            }
+            System.arraycopy(other.months, 0, months, 0, LATE_ROOM);
+            System.arraycopy(other.dues, 0, dues, 0, LATE_ROOM);
+            System.arraycopy(other.sections, 0, sections, 0, LATE_ROOM);
+            first = other.first;
+            size = other.size;
         }
     }
 
