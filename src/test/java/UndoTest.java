@@ -3,54 +3,38 @@ public final class UndoTest {
     private UndoTest() {
     }
 
-    /** The hash of all but the saved states and the buffer, as far as the looks tell. */
-    private static long looks(PensionSections x) {
-        long hash = 7;
-        for (int what = 0; what < 7; what++) {
-            hash = 31 * hash + x.count(what);
-        }
-        for (int what = 0; what < 6; what++) {
-            hash = 31 * hash + x.sum(what);
-        }
-        for (int setting = 0; setting < 4; setting++) {
-            hash = 31 * hash + x.setting(setting);
-        }
-        for (int i = 0; i < 9; i++) {
-            hash = 31 * hash + x.sectionOf(i / 3, i % 3);
-        }
-        for (int i = 0; i < 96; i++) {
-            hash = 31 * hash + x.member(i / 12, i % 12);
-        }
-        for (int place = 0; place < x.count(1); place++) {
-            int number = x.member(place, 0);
-            for (int i = 0; i < 240; i++) {
-                hash = 31 * hash + x.late(number, i / 4, i % 4);
-            }
-        }
-        return hash;
-    }
-
+    /** Three members, two of them with late months; 5 states are saved, so that the next call drops none. */
     private static PensionSections some() {
         PensionSections x = new PensionSections();
-        x.join(0, 1000, 700);
-        x.join(1, 2000, 776);
-        x.join(2, 3000, 300);
-        x.transfer(1, 100000);
+        Check.write(x, "1000s0a58;2000s1a64+99999;3000s2a25");
+        x.joinAll();
         x.fallBehind(0, true);
         x.fallBehind(2, true);
         x.set(1, 3);
-        x.pass(6);
+        x.pass(12);
+        Check.same("saved", x.count(7), 5);
+        Check.same("one is retired", x.count(2), 1);
         return x;
     }
 
     private static void undoes(String what, PensionSections x, Check.Call call) {
-        long before = looks(x);
-        int saved = x.count(7);
+        long before = x.digest();
         call.answer();
-        int savedThen = Math.min(6, saved + 1);
-        Check.same(what + " saves", x.count(7), savedThen);
-        Check.same("left of " + what, x.undo(), savedThen - 1);
-        Check.same("undone " + what, looks(x), before);
+        Check.same(what + " saves", x.count(7), 6);
+        Check.same("left of " + what, x.undo(), 5);
+        Check.same("undone " + what, x.digest(), before);
+    }
+
+    /** The text does not come back by undo; all else does. */
+    private static void undoesJoinAll(PensionSections x) {
+        String text = "1s0a20+5;2s1a30";
+        Check.write(x, text);
+        long before = x.digest();
+        Check.same("joinAll", x.joinAll(), 5);
+        Check.same("joinAll saves", x.count(7), 6);
+        Check.same("left of joinAll", x.undo(), 5);
+        Check.write(x, text);
+        Check.same("undone joinAll", x.digest(), before);
     }
 
     private static void eachMethod() {
@@ -75,8 +59,7 @@ public final class UndoTest {
         undoes("set as it is", x, () -> x.set(2, 5));
         undoes("pass", x, () -> x.pass(1));
         undoes("pass of many", x, () -> x.pass(120));
-        Check.write(x, "1s0a20+5;2s1a30");
-        undoes("joinAll", x, x::joinAll);
+        undoesJoinAll(x);
     }
 
     private static void sixAtMost() {
@@ -119,21 +102,28 @@ public final class UndoTest {
         Check.same("the buffer", x.clearBuffer(), 3);
     }
 
+    /** Six calls that change much are undone to the same as six that change nothing. */
     private static void ofALaterStateNothingIsLeft() {
         PensionSections x = some();
-        long before = looks(x);
         x.set(1, 60);
         x.pass(50);
         x.leave(1);
         x.join(1, 9, 300);
         x.fallBehind(3, true);
         x.pass(20);
+        PensionSections y = some();
         for (int i = 0; i < 6; i++) {
-            x.undo();
+            y.set(1, 3);
         }
-        Check.same("six calls undone", looks(x), before);
+        for (int left = 5; left >= 0; left--) {
+            Check.same("left", x.undo(), left);
+            Check.same("left", y.undo(), left);
+        }
+        Check.same("six calls undone", x.digest(), y.digest());
         x.pass(1);
-        Check.same("and it goes on from there", x.late(0, 2, 0), 6);
+        y.pass(1);
+        Check.same("and it goes on from there", x.digest(), y.digest());
+        Check.same("with the late month of then", x.late(0, 2, 0), 12);
     }
 
     public static void main(String[] args) {
