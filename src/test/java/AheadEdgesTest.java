@@ -270,6 +270,13 @@ public final class AheadEdgesTest {
         w.pass(1);
         w.payLate(0, 100);
         Check.same("all late: bits of 0.0", w.digest(), digestByCalls(w, ""));
+        w.fallBehind(0, false);
+        w.pass(1);
+        Check.same("bits of 0.5", w.digest(), digestByCalls(w, ""));
+        w.pass(1);
+        Check.same("bits of 2 by 3", w.digest(), digestByCalls(w, ""));
+        w.pass(100);
+        Check.same("bits of 102 by 103", w.digest(), digestByCalls(w, ""));
     }
 
     public static void main(String[] args) {

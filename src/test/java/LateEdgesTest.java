@@ -103,6 +103,13 @@ public final class LateEdgesTest {
         Check.same("the coin is given back", x.payLate(0, 1), 1);
         Check.same("all 3 are paid", x.member(0, 4), 3);
         Check.same("nothing came", x.count(3) + x.sum(1), 0);
+        x.pay(0, 1000);
+        x.pass(1);
+        x.pay(0, 9);
+        x.pass(2);
+        Check.same("the last coin for the first, then two for nothing", x.payLate(0, 101), 0);
+        Check.same("none is left", x.member(0, 10), 0);
+        Check.same("service", x.member(0, 4), 6);
         x.pass(1);
         Check.same("a new one", x.late(0, 0, 1), 0);
         Check.same("costs nothing", x.late(0, 0, 3), 0);
@@ -138,6 +145,17 @@ public final class LateEdgesTest {
         Check.same("the section", x.late(0, 0, 2), 0);
         Check.same("the cost", x.late(0, 0, 3), 100);
         Check.same("that is what is paid", x.payLate(0, 150), 50);
+        Check.same("and goes to the fund", x.count(3), 100);
+    }
+
+    /** What it costs, with what it costs besides, goes to the fund. */
+    private static void whatItCostsGoesToTheFund() {
+        PensionSections x = Make.behind(2, 500);
+        Check.same("505 and 502", x.member(0, 11), 1007);
+        Check.same("what is over of 1000", x.payLate(0, 1000), 495);
+        Check.same("the fund", x.count(3), 505);
+        Check.same("the sum", x.sum(1), 505);
+        Check.same("not in time, nor transferred", x.sum(0) + x.sum(2), 0);
     }
 
     /** What is left over is given back: all of it, when nothing is late. */
@@ -259,6 +277,7 @@ public final class LateEdgesTest {
         monthsForNothing();
         serviceInItsSection();
         whatWasDueStays();
+        whatItCostsGoesToTheFund();
         whatIsLeftOver();
         fundLimitWithTheWholeAmount();
         retiredOnesPayNothing();

@@ -61,6 +61,33 @@ public final class MemberEdgesTest {
         Check.noIndex("a number that nobody has yet", x, () -> x.leave(6));
     }
 
+    /** Of 8 who were behind, retired and left nothing is left for 8 who come then. */
+    private static void newOnesInheritNothing() {
+        PensionSections x = new PensionSections();
+        x.set(3, 1);
+        for (int i = 0; i < 8; i++) {
+            x.join(2, 1000, 777);
+            x.transfer(i, 50000);
+            x.fallBehind(i, true);
+        }
+        x.pass(2);
+        Check.same("all have late months", x.count(4), 16);
+        x.pass(1);
+        Check.same("all are retired", x.count(2), 8);
+        for (int i = 0; i < 8; i++) {
+            x.leave(i);
+        }
+        for (int i = 0; i < 8; i++) {
+            x.join(1, 100 + i, 300 + i);
+        }
+        for (int i = 0; i < 8; i++) {
+            int[] due = {8 + i, 1, 100 + i, 300 + i, 0, 0, 0, 0, 0, 0, 0, 0};
+            for (int what = 0; what < 12; what++) {
+                Check.same("what " + what + " of new " + i, x.member(i, what), due[what]);
+            }
+        }
+    }
+
     /** A pay, 1 to 9999 a month. */
     private static void payFrom1To9999() {
         PensionSections x = new PensionSections();
@@ -249,6 +276,32 @@ public final class MemberEdgesTest {
         Check.same("10 months that were brought along count too", x.leave(1), 10 * 300);
     }
 
+    /** The rate is that of the section of the service, not of the own one. */
+    private static void leaveByTheRateOfEachSection() {
+        PensionSections x = new PensionSections();
+        x.section(0, 300, 60);
+        x.section(1, 10, 60);
+        x.join(0, 1000, 300);
+        x.pass(2);
+        x.change(0, 1);
+        x.pass(3);
+        Check.same("2 at 300 and 3 at 10", x.leave(0), 630);
+    }
+
+    /** Late months of one who leaves are gone, and did not lapse; one who is new has none of them. */
+    private static void leaveWithLateMonths() {
+        PensionSections x = Make.behind(5, 100);
+        Check.same("nothing is due back", x.leave(0), 0);
+        Check.same("none is late", x.count(4), 0);
+        Check.same("none lapsed", x.count(5), 0);
+        x.join(0, 1000, 300);
+        Check.same("a new one is not behind", x.member(0, 9), 0);
+        Check.same("and has no late months", x.member(0, 10), 0);
+        x.pass(60);
+        Check.same("none lapsed later", x.count(5), 0);
+        Check.same("the new one serves", x.member(0, 4), 60);
+    }
+
     /** The most that can be due back: 9999 times 300 times 9999 for each section, without an overflow. */
     private static void leaveWithTheMost() {
         PensionSections x = new PensionSections();
@@ -340,6 +393,20 @@ public final class MemberEdgesTest {
         Check.same("and cost", x.member(0, 11), 100);
     }
 
+    /** fallBehind names no IllegalStateException: a retired one may fall behind, and stay so, without late months. */
+    private static void fallBehindOfARetiredOne() {
+        PensionSections x = new PensionSections();
+        x.join(0, 1000, 778);
+        x.fallBehind(0, true);
+        x.pass(2);
+        Check.same("retired", x.member(0, 7), 1);
+        Check.same("still behind", x.member(0, 9), 1);
+        Check.same("catches up", x.fallBehind(0, false), 1);
+        Check.same("falls behind", x.fallBehind(0, true), 0);
+        x.pass(3);
+        Check.same("without late months", x.member(0, 10), 0);
+    }
+
     /** 8: of an active member what the pension would be at retiring now, without a loss, also if that is refused. */
     private static void pensionOfAYoungOne() {
         PensionSections x = new PensionSections();
@@ -354,6 +421,7 @@ public final class MemberEdgesTest {
         eightAtMost();
         retiredOnesTakeTheirPlace();
         numbersOfThoseThatAreGone();
+        newOnesInheritNothing();
         payFrom1To9999();
         ageFrom192To959();
         atFirst();
@@ -365,12 +433,15 @@ public final class MemberEdgesTest {
         leaveWithAnEmptyFund();
         leaveEachSectionByItself();
         leaveByPayAndRateOfNow();
+        leaveByTheRateOfEachSection();
+        leaveWithLateMonths();
         leaveWithTheMost();
         leaveOfARetiredOne();
         payOfARetiredOne();
         changeIsRefused();
         changeKeepsWhatWas();
         fallBehindTellsWhatWas();
+        fallBehindOfARetiredOne();
         pensionOfAYoungOne();
         Check.end();
     }

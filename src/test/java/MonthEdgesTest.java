@@ -222,6 +222,18 @@ public final class MonthEdgesTest {
         x.pass(120);
         Check.same("100 came each month, 100 went", x.count(3), 100);
         Check.same("none was missing", x.sum(4), 0);
+        PensionSections y = new PensionSections();
+        Make.pensioner(y, 100);
+        y.pass(1);
+        Check.same("the fund is empty", y.count(3), 0);
+        y.join(0, 1000, 300);
+        y.pass(1);
+        Check.same("what comes in the month is enough", y.sum(3), 200);
+        Check.same("none is missing", y.sum(4), 0);
+        y.pay(1, 999);
+        y.pass(1);
+        Check.same("1 less is not", y.sum(4), 100);
+        Check.same("and stays in the fund", y.count(3), 99);
     }
 
     /** Step 4 comes behind step 3: who retires by age gets the first pension in the next month. */

@@ -238,6 +238,7 @@ public final class TextEdgesTest {
         Check.write(x, "1s0a20;1s2a20");
         Check.same("only open ones", x.joinAll(), 2);
         Check.same("the numbers begin at 0", x.member(0, 0), 0);
+        Check.same("no transfer without an amount", x.sum(2) + x.count(3), 0);
     }
 
     /** IllegalStateException if a transfer is refused, by 9999 months of service. */

@@ -69,6 +69,40 @@ public final class UndoEdgesTest {
         Check.noState("no more", x, x::undo);
     }
 
+    private static void savesOne(String what, PensionSections x, Check.Call call) {
+        int before = x.count(7);
+        call.answer();
+        Check.same(what + " saves one", x.count(7), before + 1);
+        Check.same(what + " is undone", x.undo(), before);
+    }
+
+    /** Each method that is marked "undoable" saves one state, whatever it changes and however much. */
+    private static void eachUndoableMethod() {
+        PensionSections x = new PensionSections();
+        x.join(0, 1000, 700);
+        x.fallBehind(0, true);
+        x.pass(2);
+        Check.write(x, "1s0a20+1;2s1a20;3s2a20+3");
+        savesOne("section", x, () -> x.section(0, 300, 20));
+        savesOne("close", x, () -> x.close(0, true));
+        savesOne("join", x, () -> x.join(0, 1000, 300));
+        savesOne("leave", x, () -> x.leave(0));
+        savesOne("pay", x, () -> x.pay(0, 500));
+        savesOne("change", x, () -> x.change(0, 1));
+        savesOne("fallBehind", x, () -> x.fallBehind(0, false));
+        savesOne("payLate of two", x, () -> x.payLate(0, 300));
+        savesOne("transfer", x, () -> x.transfer(0, 20000));
+        savesOne("retire", x, () -> x.retire(0));
+        savesOne("set", x, () -> x.set(0, 600));
+        savesOne("pass of one", x, () -> x.pass(1));
+        savesOne("pass of many", x, () -> x.pass(120));
+        savesOne("joinAll of three", x, x::joinAll);
+        int[] due = {0, 0, 1000, 702, 0, 0, 0, 0, 0, 1, 2, 201};
+        for (int what = 0; what < 12; what++) {
+            Check.same("the member is as before", x.member(0, what), due[what]);
+        }
+    }
+
     /** Also if it changes nothing. */
     private static void savedAlsoIfNothingIsChanged() {
         PensionSections x = new PensionSections();
@@ -245,6 +279,7 @@ public final class UndoEdgesTest {
         noneIsSaved();
         theOldestIsDroppedFirst();
         savedAgainBehindUndo();
+        eachUndoableMethod();
         savedAlsoIfNothingIsChanged();
         whatThrowsSavesNothing();
         notUndoable();
