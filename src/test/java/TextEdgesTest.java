@@ -273,6 +273,13 @@ public final class TextEdgesTest {
         Check.noState("1 more", x, x::joinAll);
         Check.write(x, "9999s0a20");
         Check.same("without a transfer", x.joinAll(), 4);
+        x.pass(1);
+        Check.same("above the limit by contributions of 999", x.count(3), Make.FULL_FUND + 3 * 999);
+        Check.write(x, "9999s0a20+1");
+        Check.noState("1 more above it", x, x::joinAll);
+        Check.write(x, "9999s0a20;9999s0a20");
+        Check.same("without a transfer above it", x.joinAll(), 6);
+        Check.same("one by one too", x.join(0, 9999, 240), 6);
     }
 
     /** IllegalArgumentException is named first: also with a closed section and 8 members. */
