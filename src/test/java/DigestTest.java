@@ -80,22 +80,23 @@ public final class DigestTest {
 
     private static void withAPensionTo12MonthsAhead() {
         PensionSections x = new PensionSections();
+        x.section(2, 100, 30);
         x.join(2, 720, 700);
         x.fallBehind(0, true);
         x.pass(1);
         x.payLate(0, 72);
         x.fallBehind(0, false);
         long due = folded(
-            1, 1, 0, 72, 0, 0, 0, 5,
+            1, 1, 0, 72, 0, 0, 0, 6,
             0, 72, 0, 0, 0, 0,
             780, 12, 5, 2,
             100, 60, 0, 0, 0, 0,
             100, 60, 0, 0, 0, 0,
-            100, 60, 0, 1, 1, 0,
-            0, 2, 720, 701, 0, 0, 1, 0, 1, 0, 0, 0,
-            13 - 3, 0,
+            100, 30, 0, 1, 1, 0,
+            0, 2, 720, 701, 0, 0, 1, 0, 2, 0, 0, 0,
+            26 - 6, 2,
             72 * 25, 0, 0, 0,
-            79 + 72 + 1,
+            79 + 36 + 1,
             0,
             0);
         Check.same("digest with all paid late, and 67 months to go in 12", x.digest(), due);
